@@ -242,11 +242,13 @@ public final class BoneEstate {
             return NONE;
         }
         course.asTold();
-        if (!course.canLay(now, heir)) {
-            return CANNOT;
+        trial.copyFrom(now);
+        int worth = course.layRow(trial, heir);
+        if (worth != CANNOT) {
+            remember();
+            now.copyFrom(trial);
         }
-        remember();
-        return course.layRow(now, heir);
+        return worth;
     }
 
     public int go(int n) {
@@ -1088,6 +1090,7 @@ public final class BoneEstate {
                         return fault;
                     }
                     wantsValue = token == NOT || token == OPEN;
+                    mayNegate = wantsValue;
                 }
                 tape.advance();
             }
@@ -1824,14 +1827,9 @@ public final class BoneEstate {
             }
             int key = law.namesDay ? day : 0;
             int slot = key & KEPT_DAYS - 1;
-            if (keptDay[slot] != key) {
-                keptJoins[slot] = workJoins(law, day);
-                keptDay[slot] = key;
+            if (keptDay[slot] == key) {
+                return keptJoins[slot];
             }
-            return keptJoins[slot];
-        }
-
-        private static long workJoins(Law law, int day) {
             long joins = 0;
             law.scene(0, 0, day);
             for (int one = 0; one < ENDS; one++) {
@@ -1842,6 +1840,8 @@ public final class BoneEstate {
                     }
                 }
             }
+            keptJoins[slot] = joins;
+            keptDay[slot] = key;
             return joins;
         }
 
@@ -1994,8 +1994,13 @@ public final class BoneEstate {
         void goOn(Estate estate, int days) {
             for (int i = 0; i < days; i++) {
                 for (int t = 0; t < plan.trades; t++) {
-                    if (plan.tradeDay[t] == estate.day && !noTrades) {
-                        tradeOrRefuse(estate, plan.tradeOne[t], plan.tradeOther[t]);
+                    if (plan.tradeDay[t] != estate.day || noTrades) {
+                        continue;
+                    }
+                    if (canTrade(estate, plan.tradeOne[t], plan.tradeOther[t])) {
+                        estate.change(plan.tradeOne[t], plan.tradeOther[t]);
+                    } else {
+                        estate.refused++;
                     }
                 }
                 for (int d = 0; d < plan.draws; d++) {
@@ -2017,14 +2022,6 @@ public final class BoneEstate {
                     && judge.mayHold(estate, other, holder) && judge.mayHold(estate, one, partner);
         }
 
-        private void tradeOrRefuse(Estate estate, int one, int other) {
-            if (canTrade(estate, one, other)) {
-                estate.change(one, other);
-            } else {
-                estate.refused++;
-            }
-        }
-
         private void drawOrRefuse(Estate estate, int heir) {
             int size = Integer.bitCount(estate.box);
             int place = byNumbers && size > 1 ? estate.nextNumber() % size : 0;
@@ -2040,12 +2037,8 @@ public final class BoneEstate {
             }
         }
 
-        boolean canLay(Estate estate, int heir) {
-            return Integer.bitCount(estate.share[heir]) >= need && judge.findDearest(estate, heir);
-        }
-
         int layRow(Estate estate, int heir) {
-            if (!canLay(estate, heir)) {
+            if (Integer.bitCount(estate.share[heir]) < need || !judge.findDearest(estate, heir)) {
                 return CANNOT;
             }
             estate.gold[heir] = Math.min(MOST_GOLD, estate.gold[heir] + judge.bestWorth);
