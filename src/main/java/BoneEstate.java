@@ -1854,6 +1854,9 @@ public final class BoneEstate {
             rowTable.use(joinsOn(estate.day));
             int share = estate.share[heir];
             long ends = rowTable.reachOf(share);
+            if (ends == 0) {
+                return false;
+            }
             int sum = plan.worthOf(share);
             int doubles = plan.doublesOf(share);
             Law law = plan.laws[GOLD_LAW];
@@ -1872,7 +1875,7 @@ public final class BoneEstate {
                     }
                 }
             }
-            return ends != 0;
+            return true;
         }
 
         /** For each piece of a heir those of the others (bits) for which it can be changed. */

@@ -4,7 +4,7 @@ import java.util.Random;
 public final class FuzzTest {
     public static void main(String[] args) {
         int from = args.length > 0 ? Integer.parseInt(args[0]) : 0;
-        int to = args.length > 1 ? Integer.parseInt(args[1]) : 1500;
+        int to = args.length > 1 ? Integer.parseInt(args[1]) : 250;
         int wrong = 0;
         long texts = 0;
         for (int seed = from; seed < to && wrong < 5; seed++) {
