@@ -77,6 +77,9 @@ public final class SharePromisesTest {
         Check.due("the double can't be first", x.firstRow(0, 0), 10);
         Check.due("then", x.firstRow(0, 1), 0);
         Check.due("then", x.firstRow(0, 2), 20);
+        x = Check.estate("piece a 3 0 0;piece b 0 4 0;heir h;share h a;share h b;");
+        Check.due("joined by 0: a", x.firstRow(0, 0), 0);
+        Check.due("joined by 0: b", x.firstRow(0, 1), 10);
         x = Check.estate("piece a 1 1 0;piece b 1 2 0;piece c 2 1 0;heir h;share h a;share h b;share h c;");
         Check.due("a", x.firstRow(0, 0), 0);
         Check.due("b as told", x.firstRow(0, 1), 10);
@@ -185,6 +188,10 @@ public final class SharePromisesTest {
         Check.due("the other may not", Check.estate(text + "law may one<>5;").swaps(0), -2);
         Check.due("both may by what they hold now", Check.estate(text + "law may held=2;").swaps(0), 1);
         Check.due("of none", Check.estate(NOBODY).swaps(0), -2);
+        Check.due("the first piece for the last one", Check.estate("piece a 1 2 0;piece d 5 6 0;piece e 4 4 0;"
+                + "piece b 5 3 0;heir ann;heir bob;share ann a;share ann d;share bob e;share bob b;").swaps(0), 1);
+        Check.due("the last piece for the first one", Check.estate("piece b 2 3 0;piece d 5 6 0;piece a 1 2 0;"
+                + "piece e 4 4 0;heir ann;heir bob;share ann a;share ann e;share bob b;share bob d;").swaps(0), 1);
     }
 
     private static void lacks() {
@@ -256,6 +263,19 @@ public final class SharePromisesTest {
         Check.due("bob wins", x.game(0, 1, 0), 1);
         Check.due("as late as can be", x.game(0, 1, 1), 4);
         Check.due("by e", x.game(0, 1, 2), 1);
+        x = Check.estate("piece a 1 1 0;piece b 2 2 0;piece c 1 3 0;piece d 2 3 0;heir ann;heir bob;"
+                + "share ann a;share ann b;share bob c;share bob d;");
+        Check.due("ann loses", x.game(0, 1, 0), 1);
+        Check.due("behind two", x.game(0, 1, 1), 2);
+        Check.due("either way: the first", x.game(0, 1, 2), 0);
+        // An end joins greater ones alone, so it matters which way a lies.
+        x = Check.estate("piece a 2 4 0;piece c 5 5 0;piece d 3 3 0;heir ann;heir bob;share ann a;share bob c;"
+                + "law join one<other;");
+        Check.due("c stands behind a, turned or not", x.game(0, 1, 1), 2);
+        x.give(1, -1);
+        x.give(2, 1);
+        Check.due("a as told leaves no place for d: ann wins", x.game(0, 1, 0), 0);
+        Check.due("at once", x.game(0, 1, 1), 1);
     }
 
     private static void likely() {
@@ -412,10 +432,15 @@ public final class SharePromisesTest {
         x = Check.estate("piece a 0 0 1;piece b 2 1 1;heir h;");
         Check.due("unlike those told", x.missing(0), 26);
         Check.due("the first", x.missing(1), 1);
+        x.note(0, 1, 0, true);
+        x.note(0, 2, 0, true);
+        Check.due("1 and 2 are told", x.missing(0), 0);
+        x.strike(0);
+        x.strike(1);
         x.note(1, 3, 5, true);
         Check.due("3 and 5", x.missing(1), 35);
         Check.due("alone", x.missing(0), 1);
-        x.strike(0);
+        x.strike(4);
         x.note(1, 3, 5, false);
         Check.due("all but this one", x.missing(0), 25);
         x = Check.estate("law join one+1=other or day>0;");
