@@ -1057,7 +1057,7 @@ public final class BoneEstate {
         int open;
         int compared;
         int knotsLeft;
-        Law law;
+        Law law = new Law();
 
         LawReader(Tape tape) {
             this.tape = tape;
