@@ -161,25 +161,17 @@ public final class TextPromisesTest {
         Check.due("fault(1) of a good one", x.fault(1), -1);
     }
 
-    private static String times(String text, int n) {
-        StringBuilder all = new StringBuilder();
-        for (int i = 0; i < n; i++) {
-            all.append(text.replace("#", "" + (char) ('a' + i)));
-        }
-        return all.toString();
-    }
-
     private static void faultsOfMuch() {
         Check.promise = "4, too much";
-        Check.dueFault(times("piece # 1 2 3;", 9), 0, -1);
-        Check.dueFault(times("piece # 1 2 3;", 10), 2, 9 * 14);
-        Check.dueFault(times("piece # 1 2 3;", 9) + "piece", 2, 9 * 14);
-        Check.dueFault(times("heir #;", 5), 0, -1);
-        Check.dueFault(times("heir #;", 6), 2, 5 * 7);
-        Check.dueFault(times("piece # 1 2 3;", 2) + times("trade a b 1;", 8), 0, -1);
-        Check.dueFault(times("piece # 1 2 3;", 2) + times("trade a b 1;", 9), 2, 28 + 8 * 12);
-        Check.dueFault("heir a;" + times("draw a 1;", 10), 0, -1);
-        Check.dueFault("heir a;" + times("draw a 1;", 11), 2, 7 + 10 * 9);
+        Check.dueFault(Check.times("piece # 1 2 3;", 9), 0, -1);
+        Check.dueFault(Check.times("piece # 1 2 3;", 10), 2, 9 * 14);
+        Check.dueFault(Check.times("piece # 1 2 3;", 9) + "piece", 2, 9 * 14);
+        Check.dueFault(Check.times("heir #;", 5), 0, -1);
+        Check.dueFault(Check.times("heir #;", 6), 2, 5 * 7);
+        Check.dueFault(Check.times("piece # 1 2 3;", 2) + Check.times("trade a b 1;", 8), 0, -1);
+        Check.dueFault(Check.times("piece # 1 2 3;", 2) + Check.times("trade a b 1;", 9), 2, 28 + 8 * 12);
+        Check.dueFault("heir a;" + Check.times("draw a 1;", 10), 0, -1);
+        Check.dueFault("heir a;" + Check.times("draw a 1;", 11), 2, 7 + 10 * 9);
     }
 
     private static void faultsOfLaws() {
@@ -212,12 +204,12 @@ public final class TextPromisesTest {
         Check.dueFault("law gold ((((((((1))))))));", 0, -1);
         Check.dueFault("law gold (((((((((1)))))))));", 2, 17);
         Check.dueFault("law gold ((((((((1))))))))+((((((((1))))))));", 0, -1);
-        Check.dueFault("law gold not " + times("1+", 31) + "1;", 0, -1);
-        Check.dueFault("law gold " + times("1+", 32) + "1;", 2, 9 + 64);
-        Check.dueFault("law gold not not " + times("1+", 31) + "1;", 2, 17 + 62);
-        Check.dueFault("law gold " + times("(1)+", 31) + "(1);law may 1;", 0, -1);
-        Check.dueFault("law gold " + times("1+", 31) + "1;law may 1 and 1;", 2, 73 + 9 + 1);
-        Check.dueFault("law gold " + times("1+", 31) + "1;law may 1 or", 2, 73 + 9 + 1);
+        Check.dueFault("law gold not " + Check.times("1+", 31) + "1;", 0, -1);
+        Check.dueFault("law gold " + Check.times("1+", 32) + "1;", 2, 9 + 64);
+        Check.dueFault("law gold not not " + Check.times("1+", 31) + "1;", 2, 17 + 62);
+        Check.dueFault("law gold " + Check.times("(1)+", 31) + "(1);law may 1;", 0, -1);
+        Check.dueFault("law gold " + Check.times("1+", 31) + "1;law may 1 and 1;", 2, 73 + 9 + 1);
+        Check.dueFault("law gold " + Check.times("1+", 31) + "1;law may 1 or", 2, 73 + 9 + 1);
     }
 
     private static void names() {

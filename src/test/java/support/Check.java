@@ -28,6 +28,15 @@ final class Check {
         }
     }
 
+    /** A text many times over; # is a, b, c and so on. */
+    static String times(String text, int n) {
+        StringBuilder all = new StringBuilder();
+        for (int i = 0; i < n; i++) {
+            all.append(text.replace("#", "" + (char) ('a' + i)));
+        }
+        return all.toString();
+    }
+
     static int tell(BoneEstate x, String text) {
         feedText(x, text);
         return x.text(text.length());

@@ -15,6 +15,15 @@ final class Texts {
         this.mostPieces = mostPieces;
     }
 
+    /** A text with blanks behind it up to a length. */
+    static String filled(String text, int length) {
+        StringBuilder s = new StringBuilder(text);
+        while (s.length() < length) {
+            s.append(' ');
+        }
+        return s.toString();
+    }
+
     String pick(String[] list) {
         return list[r.nextInt(list.length)];
     }
