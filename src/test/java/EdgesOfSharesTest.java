@@ -17,6 +17,7 @@ public final class EdgesOfSharesTest {
         shape();
         swaps();
         swapsByLaw();
+        swapsByTwos();
         lacks();
         tooMany();
         deal();
@@ -266,6 +267,23 @@ public final class EdgesOfSharesTest {
         Check.due("it is one: the law isn't asked", Check.estate("piece a 1 2 1;heir p;share p a;law may 0;").swaps(0), 0);
     }
 
+    private static void swapsByTwos() {
+        Check.promise = "22: each for one, not one for two";
+        // b c d e would be a row, if a alone could go for c and d; b and e may not be held by q.
+        String told = "piece a 0 0 9;piece b 1 2 1;piece c 2 3 9;piece d 3 4 9;piece e 4 5 1;heir p;heir q;share p a;"
+                + "share p b;share p e;share q c;share q d;";
+        Check.due("none but a may go", Check.estate(told + "law may worth>5;").swaps(0), -2);
+        Check.due("all may go: c, d for a and one more", Check.estate(told).swaps(0), 2);
+        Check.promise = "22: PIECES change one for one, who may hold which";
+        // a and b are no part of the row: both must go, for c of q and d of r.
+        told = "piece a 0 0 1;piece b 6 6 2;piece c 1 2 3;piece d 2 3 3;heir p;heir q;heir r;share p a;share p b;"
+                + "share q c;share r d;";
+        Check.due("all may", Check.estate(told).swaps(0), 2);
+        Check.due("none may hold b", Check.estate(told + "law may worth<>2;").swaps(0), -2);
+        Check.due("who has none else may hold a, b", Check.estate(told + "law may held<2 or worth=3;").swaps(0), 2);
+        Check.due("c and d may not be held", Check.estate(told + "law may worth<3;").swaps(0), -2);
+    }
+
     private static void lacks() {
         Check.promise = "23: LACKS";
         BoneEstate x = holding(PATH, 7, "");
@@ -315,6 +333,8 @@ public final class EdgesOfSharesTest {
         Check.due("all may with an ERROR", Check.estate(ALIKE + FIVE + "law may 1/0;").deal(), 5);
         Check.due("an empty box: who has a row", holding(ALIKE, 9, "").deal(), 1);
         Check.due("an empty box: no row", holding(ALIKE, 9, "law join 0;").deal(), 0);
+        Check.due("all in the box may stay", Check.estate("piece a 0 0 0;piece b 1 1 0;heir p;share p b;").deal(), 1);
+        Check.due("one of two stays", Check.estate("piece a 0 0 0;piece b 1 1 0;piece c 1 2 0;heir p;share p b;").deal(), 1);
         String two = "piece a 1 2 0;piece b 3 4 0;piece c 2 3 0;heir p;heir q;share p a;share p b;";
         Check.due("c for p, or for q", Check.estate(two).deal(), 1);
         Check.due("c for p, need isn't asked", Check.estate(two + "need 9;").deal(), 1);
@@ -369,6 +389,15 @@ public final class EdgesOfSharesTest {
         x.give(1, 1);
         x.give(2, -1);
         Check.due("behind it alone", x.game(0, 1, 1), 2);
+        // If p begins by a, q lays c where b fits at neither end then: so p begins by b, and lays a in the end.
+        x = Check.estate("piece a 1 2 0;piece b 1 5 0;piece c 2 1 0;heir p;heir q;share p a;share p b;share q c;");
+        Check.due("p wins by b", x.game(0, 1, 0) * 100 + x.game(0, 1, 1) * 10 + x.game(0, 1, 2), 31);
+        x = Check.estate("piece a 2 1 0;piece b 5 1 0;piece c 1 2 0;heir p;heir q;share p a;share p b;share q c;");
+        Check.due("p wins by b", x.game(0, 1, 0) * 100 + x.game(0, 1, 1) * 10 + x.game(0, 1, 2), 31);
+        x = Check.estate("piece a 1 2 0;piece b 1 5 0;piece c 1 2 0;heir p;heir q;share p a;share p b;share q c;");
+        Check.due("p wins by b", x.game(0, 1, 0) * 100 + x.game(0, 1, 1) * 10 + x.game(0, 1, 2), 31);
+        x = Check.estate("piece a 1 2 0;piece b 2 5 0;piece c 1 2 0;heir p;heir q;share p a;share p b;share q c;");
+        Check.due("p wins by b", x.game(0, 1, 0) * 100 + x.game(0, 1, 1) * 10 + x.game(0, 1, 2), 31);
         Check.promise = "26: it stays one";
         x = Check.estate("piece a 1 2 0;piece b 3 4 0;heir p;heir q;share p a;share q b;law join one=4 and other=1;");
         Check.due("q lays b turned, and wins", x.game(1, 0, 1), 1);

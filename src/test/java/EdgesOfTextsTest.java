@@ -132,6 +132,17 @@ public final class EdgesOfTextsTest {
         Check.feedText(x, "heir abc;");
         Check.due("a word that is cut", x.text(7), -1);
         Check.due("';' must come", x.fault(1), 7);
+        x.text(0);
+        Check.feedText(x, "need 19;need 1;");
+        Check.due("a number that is cut", x.text(6), -1);
+        Check.due("';' must come behind 1", x.fault(0) * 10 + x.fault(1), 16);
+        Check.feedText(x, "law join 12;");
+        Check.due("a number that is cut, in E", x.text(10), -1);
+        Check.due("';' must come behind 1", x.fault(0) * 100 + x.fault(1), 110);
+        Check.feedText(x, "heir b;heir c;");
+        Check.due("a line that is cut off", x.text(7), 1);
+        Check.feedText(x, "x");
+        x.text(1);
         Check.due("the tape is empty with a fault, too", x.feed(0, 0, 0, 0, 0), 20);
         x = new BoneEstate();
         Check.feedText(x, "heir a;");
@@ -504,6 +515,15 @@ public final class EdgesOfTextsTest {
         Check.dueFault("law may 1<1 or 1<1 and (1<1)<1 and not 1<1;", 0, -1);
         Check.dueFault("law may (1<1<1);", 1, 12);
         Check.dueFault("law may 1<(1<1)<1;", 1, 15);
+        Check.dueFault("law may (1 and 1)<1;", 0, -1);
+        Check.dueFault("law may (1 or 1<1)<(1 and 1>1);", 0, -1);
+        Check.dueFault("law may 1<(1 and 1)<1;", 1, 19);
+        for (String sign : new String[] {"<", "<=", "=", "<>", ">=", ">"}) {
+            for (String next : new String[] {"<", "<=", "=", "<>", ">=", ">"}) {
+                Check.dueFault("law may 1 " + sign + " 1 " + next + " 1;", 1, 13 + sign.length());
+                Check.dueFault("law may 1 " + sign + " 1 and 1 " + next + " 1;", 0, -1);
+            }
+        }
         Check.dueFault("law may 1<(1)+(1)*(1)=1;", 1, 21);
         Check.dueFault("law may (1<1)and(1<1)<(1<1);", 0, -1);
     }
@@ -614,11 +634,28 @@ public final class EdgesOfTextsTest {
         Check.due("100/7/2", valueOf("100/7/2"), 7);
         Check.due("100/(7/2)", valueOf("100/(7/2)"), 33);
         Check.due("2*7/3", valueOf("2*7/3"), 4);
+        Check.due("5*7/3", valueOf("5*7/3"), 11);
+        Check.due("7/3*5", valueOf("7/3*5"), 10);
         Check.due("2+3*4-6/2", valueOf("2+3*4-6/2"), 11);
         Check.due("one or other and 0", valueOf("one or other and 0"), 1);
         Check.due("not 0 or 1", valueOf("not 0 or 1"), 1);
         Check.due("not (0 or 1)", valueOf("not (0 or 1)"), 0);
         Check.due("not 2<1 and 3", valueOf("not 2<1 and 3"), 1);
+        int[] three = {0, 0, 0, 1, 1, 1};
+        for (int i = 0; i < 6; i++) {
+            String sign = signs[i];
+            Check.due("3" + sign + "1+1", valueOf("3" + sign + "1+1"), three[i]);
+            Check.due("3" + sign + "3-1", valueOf("3" + sign + "3-1"), three[i]);
+            Check.due("3" + sign + "2*1", valueOf("3" + sign + "2*1"), three[i]);
+            Check.due("1+2" + sign + "2", valueOf("1+2" + sign + "2"), three[i]);
+            Check.due("6/2" + sign + "2", valueOf("6/2" + sign + "2"), three[i]);
+            Check.due("not 3" + sign + "1+1", valueOf("not 3" + sign + "1+1"), 1 - three[i]);
+            Check.due("7 and 3" + sign + "2", valueOf("7 and 3" + sign + "2"), three[i]);
+            Check.due("3" + sign + "2 and 7", valueOf("3" + sign + "2 and 7"), three[i]);
+            Check.due("0 or 3" + sign + "2", valueOf("0 or 3" + sign + "2"), three[i]);
+        }
+        Check.due("3 and 0 or 1", valueOf("3 and 0 or 1"), 1);
+        Check.due("1 or 3 and 0", valueOf("1 or 3 and 0"), 1);
         Check.due("a number alone is as it is", valueOf("9999"), 9999);
         Check.due("a sum alone is as it is", valueOf("kin-one"), 1);
     }
@@ -638,11 +675,15 @@ public final class EdgesOfTextsTest {
         Check.due("0 times 10 to the 12", valueOf("0*(" + most + ")"), 0);
         Check.due("10 to the 12 times 0", valueOf(most + "*0"), 0);
         // 4096 * 4096 * 4096 * 4096 is 2 to the 48; its square is 0 in a long, but far above.
+        Check.due("2 to the 34", valueOf("4096*4096*1024"), 17179869184L);
         Check.due("a product that would wrap around", valueOf("(4096*4096*1024)*(4096*4096*1024)"), ERROR);
         Check.due("below 0 by 10 to the 12", valueOf("0-" + most), -1000000000000L);
         Check.due("by more", valueOf("0-" + most + "-1"), ERROR);
         Check.due("difference above", valueOf(most + "-(0-1)"), ERROR);
         Check.due("an error on the way", valueOf("(" + most + "+1)-1"), ERROR);
+        Check.due("an error on the way, without parentheses", valueOf(most + "+1-1"), ERROR);
+        Check.due("none on this way", valueOf(most + "+(1-1)"), 1000000000000L);
+        Check.due("an error on the way, by times", valueOf(most + "*2/2"), ERROR);
         Check.due("an error on the way, by 0", valueOf("(" + most + "+1)*0"), ERROR);
         Check.due("1/0", valueOf("1/0"), ERROR);
         Check.due("0/0", valueOf("0/0"), ERROR);
