@@ -255,9 +255,12 @@ public final class AfterwardsTest {
             x.go(99);
         }
         x = Check.estate("law join day=128 or day=0;");
+        BoneEstate y = Check.estate("law join day=3;");
         for (int day = 0; day <= 200; day++) {
             Check.due("on day " + day, x.joins(0, 1), day == 128 || day == 0 ? 1 : 0);
+            Check.due("but once, on day " + day, y.joins(0, 1), day == 3 ? 1 : 0);
             x.go(1);
+            y.go(1);
         }
     }
 

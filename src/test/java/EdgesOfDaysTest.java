@@ -166,14 +166,32 @@ public final class EdgesOfDaysTest {
         BoneEstate x = Check.estate("piece a 0 1 1;piece b 1 6 2;heir p;share p a;share p b;law gold 0;");
         x.lay(0);
         Check.due("a row worth 0 is laid, too", x.count(7) * 100 + x.count(5) * 10 + x.count(6), 120);
+        Check.promise = "12: rich: GOLD of the HEIR, ahead of the laying";
+        x = Check.estate("piece a 0 0 5;piece b 1 1 6;piece c 2 2 7;heir p;heir q;share p a;share q c;need 1;"
+                + "law gold rich*2+3;");
+        Check.due("by law of none", x.law(2, 1, 0), 3);
+        Check.due("the first", x.lay(0), 3);
+        Check.due("by law now", x.law(2, 1, 0), 9);
+        Check.due("by law of the other, not rich", x.law(2, 1, 1), 3);
+        x.give(1, 0);
+        Check.due("the dearest now", x.dearest(0, 0), 9);
+        Check.due("the second", x.lay(0), 9);
+        Check.due("by law then", x.law(2, 1, 0), 27);
+        Check.due("the other is not rich", x.lay(1), 3);
+        x = Check.estate("piece a 0 0 5;heir p;share p a;law gold day*2;");
+        x.go(3);
+        Check.due("day, by law", x.law(2, 0, 0), 6);
+        Check.due("day, of the row", x.dearest(0, 0), 6);
     }
 
     private static void mostGold() {
         Check.promise = "12: GOLD";
         // Nine rows of one piece are the most that one can lay: 99999 is never reached.
-        BoneEstate x = Check.estate(NINE + FIVE + "need 1;law gold 9999+rich;");
+        BoneEstate x = Check.estate(NINE + FIVE + "need 1;law gold 9999+rich;law may rich+1;");
         for (int p = 0; p < 9; p++) {
             x.give(p, 4);
+            Check.due("rich", x.law(1, 0, 4), 9999 * p + 1);
+            Check.due("rich, uncut", x.law(2, 0, 4), 9999 * p + 9999);
             Check.due("worth 9999 at most", x.lay(4), 9999);
             Check.due("gold in sum", x.heir(4, 0), 9999 * (p + 1));
         }
@@ -297,6 +315,14 @@ public final class EdgesOfDaysTest {
         Check.due("what is refused stays in the box", x.count(4), 1);
         Check.due("trades and draws in sum", refusedOnDay0(Check.times("trade a b 0;", 8) + "law may 0;"
                 + Check.times("draw q 0;", 10)), 18);
+        Check.promise = "A DAY (2): he may not hold the one that is drawn: no other one is";
+        x = Check.estate("piece a 0 1 1;piece b 0 1 9;piece c 1 0 9;heir p;heir q;draw p 0;need 1;law may worth>5;");
+        Check.due("as it goes: refused", x.ahead(1, 3, 0), 1);
+        Check.due("as it goes: the box", x.ahead(1, 4, 0), 3);
+        Check.due("as it goes: he lays none", x.lays(0), -2);
+        x.go(1);
+        Check.due("by numbers, seed 0: refused", x.count(8), 1);
+        Check.due("by numbers, seed 0: the box", x.count(4), 3);
     }
 
     private static long next(long last) {
@@ -439,6 +465,12 @@ public final class EdgesOfDaysTest {
         x.give(1, 0);
         x.lay(0);
         Check.due("laid by call isn't next", x.lays(0), -2);
+        Check.promise = "15: as it goes: without numbers";
+        told = "piece a 0 1 1;piece b 1 2 2;piece c 5 5 3;piece d 5 5 4;heir p;share p b;seed 2;draw p 0;";
+        Check.due("a is drawn", Check.estate(told).lays(0), 1);
+        x = Check.estate(told);
+        x.go(1);
+        Check.due("by numbers d is drawn, 908 of three", x.heir(0, 1), 10);
     }
 
     private static void chance() {
@@ -462,6 +494,13 @@ public final class EdgesOfDaysTest {
                 }
             }
         }
+        Check.promise = "35: a HEIR's GOLD, not that of all";
+        BoneEstate two = Check.estate(NINE + FIVE + "share q a;share r b;need 1;");
+        Check.due("p, 1", two.chance(0, 1, 0, 1), 0);
+        Check.due("q, 1", two.chance(0, 1, 1, 1), 10);
+        Check.due("q, 2", two.chance(0, 1, 1, 2), 0);
+        Check.due("r, 2", two.chance(0, 1, 2, 2), 10);
+        Check.due("r, 3", two.chance(0, 1, 2, 3), 0);
         Check.promise = "35: edges";
         BoneEstate x = Check.estate("piece a 0 0 7;heir h;heir k;need 1;draw k 98;");
         Check.due("98 days", x.chance(1, 98, 1, 7), 0);
@@ -619,6 +658,16 @@ public final class EdgesOfDaysTest {
         Check.due("undo()", x.undo(), 0);
         Check.due("back()", x.back(), 3);
         Check.due("it is given in the image", Check.pieceOf(x, 8, 3), 0);
+        Check.promise = "38, 39: the TAPE and the FAULT of the latest text() are none of the estate's";
+        x.keep();
+        Check.tell(x, "heir a;heir a;");
+        Check.feedText(x, "heir b;");
+        x.give(7, 0);
+        Check.due("back()", x.back(), 3);
+        Check.due("fault(0) of the latest", x.fault(0) * 100 + x.fault(1), 312);
+        Check.due("it isn't given in the image", Check.pieceOf(x, 7, 3), -2);
+        Check.due("text(7)", x.text(7), 1);
+        Check.due("told anew, no image", x.back(), -1);
     }
 
     private static int lastImage() {

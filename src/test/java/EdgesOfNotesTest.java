@@ -285,6 +285,12 @@ public final class EdgesOfNotesTest {
         x.note(1, 0, 6, true);
         Check.due("0 or 1 and 5 or 6", x.missing(0), 4);
         Check.due("half of them have 0", x.ask(0) * 10 + x.ask(1), 2);
+        Check.promise = "33: by which ENDS join now";
+        x = Check.estate("law join kin=day;");
+        x.note(1, 0, 0, false);
+        Check.due("day 0: 0 0 is struck out, 7 have 1", x.ask(0) * 100 + x.ask(1), 120);
+        x.go(1);
+        Check.due("day 1: 1 1 is struck out, 7 have 0", x.ask(0) * 100 + x.ask(1), 20);
         Check.due("ask(2)", x.ask(2), -1);
         Check.due("ask(-1)", x.ask(-1), -1);
     }

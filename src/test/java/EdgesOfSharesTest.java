@@ -274,6 +274,14 @@ public final class EdgesOfSharesTest {
                 + "share p b;share p e;share q c;share q d;";
         Check.due("none but a may go", Check.estate(told + "law may worth>5;").swaps(0), -2);
         Check.due("all may go: c, d for a and one more", Check.estate(told).swaps(0), 2);
+        Check.promise = "22: each of the two with a heir who may hold it, whichever comes first";
+        String who = "piece a 0 0 1;piece b 1 1 2;piece c 3 4 0;piece d 4 5 0;piece e 6 6 0;piece f 2 2 0;heir p;heir q;heir r;"
+                + "share p a;share p b;share q c;share r d;share r e;share r f;law may held=2 or ";
+        Check.due("a to q, b to r", Check.estate(who + "held=1 and worth=1 or held=3 and worth=2;").swaps(0), 2);
+        Check.due("b to q, a to r", Check.estate(who + "held=1 and worth=2 or held=3 and worth=1;").swaps(0), 2);
+        Check.due("none to q", Check.estate(who + "held=3;").swaps(0), -2);
+        Check.due("none to r", Check.estate(who + "held=1;").swaps(0), -2);
+        Check.due("b to neither", Check.estate(who + "worth=1;").swaps(0), -2);
         Check.promise = "22: PIECES change one for one, who may hold which";
         // a and b are no part of the row: both must go, for c of q and d of r.
         told = "piece a 0 0 1;piece b 6 6 2;piece c 1 2 3;piece d 2 3 3;heir p;heir q;heir r;share p a;share p b;"
@@ -341,6 +349,10 @@ public final class EdgesOfSharesTest {
         BoneEstate x = Check.estate(ALIKE + FIVE + "share p a;share p b;need 2;");
         x.lay(0);
         Check.due("seven for five", x.deal(), 5);
+        Check.due("two of the box to one heir", Check.estate("piece a 0 1 0;piece b 2 3 0;piece c 4 5 0;piece d 1 2 0;"
+                + "piece e 3 4 0;heir p;share p a;share p b;share p c;").deal(), 1);
+        Check.due("one that it needs isn't there", Check.estate("piece a 0 1 0;piece b 2 3 0;piece c 4 5 0;"
+                + "piece d 1 2 0;piece e 3 3 0;heir p;share p a;share p b;share p c;").deal(), 0);
         Check.due("each piece comes to one heir alone", Check.estate("piece a 1 2 0;piece b 3 4 0;piece c 2 3 0;"
                 + "piece d 5 1 0;piece e 2 6 0;heir p;heir q;share p a;share p b;share q d;share q e;").deal(), 1);
     }
@@ -436,5 +448,10 @@ public final class EdgesOfSharesTest {
         x = Check.estate("heir h;");
         Check.due("an empty box, none drawn", x.likely(0, 0, 0) * 10 + x.likely(0, 0, 1), 1);
         Check.due("an empty box, one drawn", x.likely(0, 1, 0), -2);
+        x = Check.estate("piece a 0 0 0;piece b 5 5 0;piece c 6 6 0;piece d 5 6 0;heir p;share p a;");
+        for (int n = 1; n <= 3; n++) {
+            Check.due("none of all: 0 above", x.likely(0, n, 0), 0);
+            Check.due("none of all: 1 below", x.likely(0, n, 1), 1);
+        }
     }
 }
