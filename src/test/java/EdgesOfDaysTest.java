@@ -76,6 +76,12 @@ public final class EdgesOfDaysTest {
         Check.due("with an ERROR he may", Check.estate(NINE + FIVE + "law may 1/(worth-5);").give(4, 0), true);
         Check.due("cut to 0 he may not", Check.estate(NINE + FIVE + "law may 1/(worth-5);").give(2, 0), false);
         Check.due("without a law he may", Check.estate(NINE + FIVE).give(2, 0), true);
+        x = Check.estate("piece a 5 2 1;piece b 2 5 1;heir p;law may one>other;");
+        Check.due("as told, 5 2", x.give(0, 0), true);
+        Check.due("as told, 2 5", x.give(1, 0), false);
+        x = Check.estate("piece a 5 2 1;heir p;law may one*10+other-kin*100;law gold one*10+other;");
+        Check.due("law of may, as told", x.law(1, 0, 0), -248);
+        Check.due("law of gold, as told", x.law(2, 0, 0), 52);
         x = Check.estate(NINE + FIVE + "share p a;law may day>0 and rich=0;need 1;");
         Check.due("on day 0", x.give(1, 1), false);
         x.go(1);
@@ -658,12 +664,27 @@ public final class EdgesOfDaysTest {
         Check.due("undo()", x.undo(), 0);
         Check.due("back()", x.back(), 3);
         Check.due("it is given in the image", Check.pieceOf(x, 8, 3), 0);
+        Check.promise = "39: each HEIR's GOLD, PIECES and ROWS";
+        x = Check.estate(NINE + FIVE + "share p a;share q b;share r c;share s d;share t e;need 1;");
+        x.go(1);
+        x.give(5, 4);
+        x.keep();
+        x.go(1);
+        x.give(6, 3);
+        x.lay(3);
+        x.back();
+        for (int h = 0; h < 5; h++) {
+            Check.due("gold", x.heir(h, 0), h + 1);
+            Check.due("pieces", x.heir(h, 1), h == 4 ? 32 : 0);
+            Check.due("rows", x.heir(h, 2), 1);
+        }
+        x = Check.estate(NINE + FIVE + "need 1;");
         Check.promise = "38, 39: the TAPE and the FAULT of the latest text() are none of the estate's";
         x.keep();
         Check.tell(x, "heir a;heir a;");
         Check.feedText(x, "heir b;");
         x.give(7, 0);
-        Check.due("back()", x.back(), 3);
+        Check.due("back()", x.back(), 0);
         Check.due("fault(0) of the latest", x.fault(0) * 100 + x.fault(1), 312);
         Check.due("it isn't given in the image", Check.pieceOf(x, 7, 3), -2);
         Check.due("text(7)", x.text(7), 1);
